@@ -215,7 +215,7 @@ public final class ScanDesk {
             current = empty;
         } else {
             moveState(b);
-            recordEnds();
+            noteOccurrences();
         }
         nextPlace++;
     }
@@ -232,15 +232,15 @@ public final class ScanDesk {
     }
 
     /** The way down the fallbacks goes from longer words to shorter ones, as the order asks. */
-    private void recordEnds() {
+    private void noteOccurrences() {
         for (Prefix at = current; at != null; at = at.fallback) {
             for (Word word = at.firstWord; word != null; word = word.nextSame) {
-                record(word.number, at.length);
+                noteOccurrence(word.number, at.length);
             }
         }
     }
 
-    private void record(int number, int length) {
+    private void noteOccurrence(int number, int length) {
         counts[number]++;
         foundWords.append(number);
         foundBegins.append(nextPlace - length + 1);

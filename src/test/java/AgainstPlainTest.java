@@ -3,7 +3,7 @@ import java.util.Random;
 /** All promises: long mixed runs, each answer the same as the plain desk's. The seeds are fixed. */
 public final class AgainstPlainTest {
     private static final Due DUE = new Due("AgainstPlainTest");
-    private static final int RUNS = 600;
+    private static final int RUNS = 200;
     private static final int CALLS = 512;
 
     private final Random random;

@@ -90,12 +90,13 @@ public final class TextTest {
     }
 
     private static void textGoesOnAtThreeThousand() {
-        ScanDesk desk = Due.desk("a", "a", "a", "a", "a", "a", "a", "a", "a", "a");
+        ScanDesk desk = Due.desk("a", "a", "a", "a", "a", "a", "a", "a", "a", "a", "b");
         DUE.is("2990", Due.feed(desk, "a".repeat(299)), 2990);
-        DUE.is("3000", Due.piece(desk, "ab"), 10);
-        DUE.is("no more than 3000", Due.piece(desk, "bb"), 0);
-        DUE.is("3010", Due.piece(desk, "a"), 10);
-        DUE.is("more than 3000", Due.piece(desk, "b"), -1);
+        DUE.is("3000", Due.piece(desk, "ac"), 10);
+        DUE.is("no more than 3000", Due.piece(desk, "cc"), 0);
+        DUE.is("3001", Due.piece(desk, "b"), 1);
+        DUE.is("more than 3000", Due.piece(desk, "c"), -1);
+        DUE.is("found()", desk.found(), 3001);
     }
 
     private static void skipLeavesBytesOut() {
