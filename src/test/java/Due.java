@@ -1,6 +1,9 @@
+import java.util.function.LongSupplier;
+
 /** Collects the answers that are not as due, and helps to drive a desk with written texts. */
 final class Due {
     private final String test;
+    private String sentence = "";
     private int asked = 0;
     private int wrong = 0;
 
@@ -8,24 +11,39 @@ final class Due {
         this.test = test;
     }
 
+    /** The sentence of the document that the answers from here on belong to. */
+    void says(String where, String sentence) {
+        this.sentence = " [" + where + ": " + sentence + "]";
+    }
+
     void is(String call, long got, long want) {
-        asked++;
-        if (got != want) {
-            wrong++;
-            System.out.println(test + ": " + call + " answered " + got + ", due is " + want);
-        }
+        is(call, Long.toString(got), Long.toString(want));
     }
 
     void is(String call, boolean got, boolean want) {
-        is(call, got ? 1L : 0L, want ? 1L : 0L);
+        is(call, Boolean.toString(got), Boolean.toString(want));
     }
 
     void is(String call, String got, String want) {
         asked++;
         if (!got.equals(want)) {
             wrong++;
-            System.out.println(test + ": " + call + " answered " + got + ", due is " + want);
+            System.out.println(test + sentence + ": " + call + " answered " + got + ", due is " + want);
         }
+    }
+
+    /** The call answers NONE, and no other answer is changed by it. */
+    void refuses(ScanDesk desk, String call, LongSupplier answer) {
+        String before = all(desk);
+        is(call, answer.getAsLong(), ScanDesk.NONE);
+        is("everything behind " + call, all(desk), before);
+    }
+
+    /** The skip is refused, and no other answer is changed by it. */
+    void refusesSkip(ScanDesk desk, long n) {
+        String before = all(desk);
+        is("skip(" + n + ")", desk.skip(n), false);
+        is("everything behind skip(" + n + ")", all(desk), before);
     }
 
     void finish() {
@@ -82,6 +100,22 @@ final class Due {
         StringBuilder all = new StringBuilder();
         for (int k = 0; k < desk.lines(); k++) {
             all.append(k == 0 ? "" : " ").append(desk.line(k));
+        }
+        return all.toString();
+    }
+
+    /** What every call answers that only asks. */
+    static String all(ScanDesk desk) {
+        StringBuilder all = new StringBuilder();
+        all.append("place ").append(desk.place()).append(", steps ").append(desk.steps());
+        all.append(", state ").append(desk.state()).append(", found ").append(found(desk));
+        all.append(", lines ").append(lines(desk)).append(", counts");
+        for (int word = 0; desk.count(word) != ScanDesk.NONE; word++) {
+            all.append(' ').append(desk.count(word));
+        }
+        all.append(", picked");
+        for (int k = 0; desk.picked(k) != ScanDesk.NONE; k++) {
+            all.append(' ').append(desk.picked(k));
         }
         return all.toString();
     }
