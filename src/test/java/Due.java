@@ -28,7 +28,8 @@ final class Due {
         asked++;
         if (!got.equals(want)) {
             wrong++;
-            System.out.println(test + sentence + ": " + call + " answered " + got + ", due is " + want);
+            String row = sentence + ": " + call + " answered " + got + ", due is " + want;
+            System.out.println(test + row.replace("\n", "\\n"));
         }
     }
 
@@ -110,11 +111,11 @@ final class Due {
         all.append("place ").append(desk.place()).append(", steps ").append(desk.steps());
         all.append(", state ").append(desk.state()).append(", found ").append(found(desk));
         all.append(", lines ").append(lines(desk)).append(", counts");
-        for (int word = 0; desk.count(word) != ScanDesk.NONE; word++) {
+        for (int word = 0; word < 60 && desk.count(word) != ScanDesk.NONE; word++) {
             all.append(' ').append(desk.count(word));
         }
         all.append(", picked");
-        for (int k = 0; desk.picked(k) != ScanDesk.NONE; k++) {
+        for (int k = 0; k < desk.found(); k++) {
             all.append(' ').append(desk.picked(k));
         }
         return all.toString();

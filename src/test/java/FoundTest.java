@@ -4,11 +4,7 @@ public final class FoundTest {
 
     public static void main(String[] args) {
         longerWordsComeFirst();
-        sameWordsComeByNumber();
-        occurrencesOverlap();
         noOccurrenceGoesOverALine();
-        noOccurrenceGoesOverASkip();
-        wrongNumbersHaveNone();
         countsStandByWord();
         DUE.finish();
     }
@@ -23,44 +19,11 @@ public final class FoundTest {
         DUE.is("end(5)", desk.end(5), 4);
     }
 
-    private static void sameWordsComeByNumber() {
-        ScanDesk desk = Due.desk("b", "ab", "b", "ab", "b");
-        DUE.is("xab", Due.piece(desk, "xab"), 5);
-        DUE.is("found", Due.found(desk), "1@2 3@2 0@2 2@2 4@2");
-    }
-
-    private static void occurrencesOverlap() {
-        ScanDesk desk = Due.desk("aa", "aaa");
-        DUE.is("aaaaa", Due.piece(desk, "aaaaa"), 7);
-        DUE.is("found", Due.found(desk), "0@1 1@2 0@2 1@3 0@3 1@4 0@4");
-    }
-
     private static void noOccurrenceGoesOverALine() {
         ScanDesk desk = Due.desk("ab", "b");
         DUE.is("a and b in two lines", Due.piece(desk, "a\nb"), 1);
         DUE.is("found", Due.found(desk), "1@2");
         DUE.is("place()", desk.place(), 3);
-    }
-
-    private static void noOccurrenceGoesOverASkip() {
-        ScanDesk desk = Due.desk("ab", "b");
-        Due.piece(desk, "a");
-        desk.skip(0);
-        Due.piece(desk, "b");
-        DUE.is("found", Due.found(desk), "1@1");
-    }
-
-    private static void wrongNumbersHaveNone() {
-        ScanDesk desk = Due.desk("a", "b");
-        Due.piece(desk, "ba");
-        int[] wrong = {-1, 2, 3, Integer.MIN_VALUE, Integer.MAX_VALUE};
-        for (int k : wrong) {
-            DUE.is("word(" + k + ")", desk.word(k), -1);
-            DUE.is("end(" + k + ")", desk.end(k), -1);
-            DUE.is("count(" + k + ")", desk.count(k), -1);
-        }
-        DUE.is("word(1)", desk.word(1), 0);
-        DUE.is("end(1)", desk.end(1), 1);
     }
 
     private static void countsStandByWord() {

@@ -5,9 +5,7 @@ public final class LinesTest {
     public static void main(String[] args) {
         onlyLinesWithOneCount();
         theLastLineCountsEndedOrNot();
-        aSkipStaysInItsLine();
         manyLines();
-        wrongNumbersHaveNone();
         DUE.finish();
     }
 
@@ -34,18 +32,6 @@ public final class LinesTest {
         DUE.is("lines", Due.lines(desk), "1 2");
     }
 
-    private static void aSkipStaysInItsLine() {
-        ScanDesk desk = Due.desk("a");
-        Due.piece(desk, "\na");
-        desk.skip(100);
-        Due.piece(desk, "a");
-        DUE.is("lines", Due.lines(desk), "2");
-        Due.piece(desk, "\n");
-        desk.skip(7);
-        Due.piece(desk, "a");
-        DUE.is("lines behind one more", Due.lines(desk), "2 3");
-    }
-
     private static void manyLines() {
         ScanDesk desk = Due.desk("a");
         Due.feed(desk, "a\nb\n".repeat(200));
@@ -53,15 +39,5 @@ public final class LinesTest {
         for (int k = 0; k < 200; k++) {
             DUE.is("line(" + k + ")", desk.line(k), 2 * k + 1);
         }
-    }
-
-    private static void wrongNumbersHaveNone() {
-        ScanDesk desk = Due.desk("a");
-        Due.piece(desk, "a\na\na");
-        int[] wrong = {-1, 3, 4, Integer.MIN_VALUE, Integer.MAX_VALUE};
-        for (int k : wrong) {
-            DUE.is("line(" + k + ")", desk.line(k), -1);
-        }
-        DUE.is("line(2)", desk.line(2), 3);
     }
 }

@@ -7,13 +7,8 @@ public final class PickTest {
         theLongestIsPicked();
         theLesserNumberIsPicked();
         theNextBeginsBehindTheEnd();
-        aLateLongOneIsPickedForItsBegin();
         anOccurrenceAcrossTheEndIsPassedOver();
-        fortyBytesBackAreSeen();
-        picksGoOverSkipsAndLines();
         pickedIsOfTheLatestPick();
-        withoutOccurrences();
-        wrongNumbersHaveNone();
         DUE.finish();
     }
 
@@ -45,38 +40,9 @@ public final class PickTest {
         picks("abaaba", "0@2 0@5", "aba");
     }
 
-    /** The short ones end long before the long one, which begins before them. */
-    private static void aLateLongOneIsPickedForItsBegin() {
-        picks("abbbbbbbc", "1@8", "b", "abbbbbbbc");
-        picks("abbbbbbbd", "0@1 0@2 0@3 0@4 0@5 0@6 0@7", "b", "abbbbbbbc");
-    }
-
     private static void anOccurrenceAcrossTheEndIsPassedOver() {
         picks("abcde", "0@2 2@4", "abc", "cd", "e");
         picks("abcd", "0@2", "abc", "cd", "bcd");
-    }
-
-    private static void fortyBytesBackAreSeen() {
-        String forty = "a" + "b".repeat(39);
-        ScanDesk desk = Due.desk("b", forty);
-        Due.feed(desk, "b" + forty + "b");
-        DUE.is("found()", desk.found(), 42);
-        DUE.is("picked", Due.picked(desk), "0@0 1@40 0@41");
-        ScanDesk same = Due.desk("a", forty);
-        Due.feed(same, forty);
-        DUE.is("picked of two that begin alike", Due.picked(same), "1@39");
-        ScanDesk inner = Due.desk("ab", "b".repeat(39), forty);
-        Due.feed(inner, forty);
-        DUE.is("picked of three", Due.picked(inner), "2@39");
-    }
-
-    private static void picksGoOverSkipsAndLines() {
-        ScanDesk desk = Due.desk("ab", "b");
-        Due.piece(desk, "ab\nb");
-        desk.skip(1L << 40);
-        Due.piece(desk, "bab");
-        long far = (1L << 40) + 4;
-        DUE.is("picked", Due.picked(desk), "0@1 1@3 1@" + far + " 0@" + (far + 2));
     }
 
     private static void pickedIsOfTheLatestPick() {
@@ -104,30 +70,5 @@ public final class PickTest {
         DUE.is("picked(1) of all", desk.picked(1), 2);
         Due.piece(desk, "\n");
         DUE.is("picked(0) behind a line's end", desk.picked(0), -1);
-    }
-
-    private static void withoutOccurrences() {
-        ScanDesk desk = new ScanDesk(10);
-        DUE.is("pick() before build()", desk.pick(), 0);
-        DUE.is("picked(0) before build()", desk.picked(0), -1);
-        Due.word(desk, "a");
-        desk.build();
-        DUE.is("pick() before the text", desk.pick(), 0);
-        Due.piece(desk, "bbb");
-        DUE.is("pick()", desk.pick(), 0);
-        DUE.is("picked(0)", desk.picked(0), -1);
-        Due.piece(desk, "a");
-        DUE.is("pick() of one", desk.pick(), 1);
-    }
-
-    private static void wrongNumbersHaveNone() {
-        ScanDesk desk = Due.desk("a");
-        Due.piece(desk, "aaa");
-        desk.pick();
-        int[] wrong = {-1, 3, 4, Integer.MIN_VALUE, Integer.MAX_VALUE};
-        for (int k : wrong) {
-            DUE.is("picked(" + k + ")", desk.picked(k), -1);
-        }
-        DUE.is("picked(2)", desk.picked(2), 2);
     }
 }

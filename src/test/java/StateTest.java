@@ -6,7 +6,6 @@ public final class StateTest {
         stateIsTheLongestPrefix();
         aByteIsOneStepAtLeast();
         everyFallIsAStep();
-        aLineEndIsOneStep();
         aWholeWordIsAPrefix();
         withoutWords();
         DUE.finish();
@@ -44,14 +43,6 @@ public final class StateTest {
         after(desk, "a", 4, 6);
         after(desk, "b", 0, 11);
         after(desk, "b", 0, 12);
-    }
-
-    private static void aLineEndIsOneStep() {
-        ScanDesk desk = Due.desk("aaaa");
-        after(desk, "aaa", 3, 3);
-        after(desk, "\n", 0, 4);
-        after(desk, "\n", 0, 5);
-        after(desk, "a", 1, 6);
     }
 
     private static void aWholeWordIsAPrefix() {
