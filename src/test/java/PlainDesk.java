@@ -1,4 +1,5 @@
 import java.util.ArrayList;
+import java.util.Comparator;
 import java.util.HashSet;
 import java.util.List;
 import java.util.Set;
@@ -166,32 +167,25 @@ final class PlainDesk {
 
     int pick() {
         picks = new ArrayList<>();
-        int best = bestBehind(-1);
-        while (best >= 0) {
-            picks.add(best);
-            best = bestBehind(end(best));
+        long lastEnd = -1;
+        for (int k : byPreference()) {
+            if (begin(k) > lastEnd) {
+                picks.add(k);
+                lastEnd = end(k);
+            }
         }
         return picks.size();
     }
 
-    private int bestBehind(long lastEnd) {
-        int best = -1;
+    private List<Integer> byPreference() {
+        List<Integer> all = new ArrayList<>();
         for (int k = 0; k < found(); k++) {
-            if (begin(k) > lastEnd && (best < 0 || isBetter(k, best))) {
-                best = k;
-            }
+            all.add(k);
         }
-        return best;
-    }
-
-    private boolean isBetter(int k, int best) {
-        if (begin(k) != begin(best)) {
-            return begin(k) < begin(best);
-        }
-        if (length(k) != length(best)) {
-            return length(k) > length(best);
-        }
-        return word(k) < word(best);
+        all.sort(Comparator.<Integer>comparingLong(this::begin)
+                .thenComparingInt(k -> -length(k))
+                .thenComparingInt(this::word));
+        return all;
     }
 
     private int length(int k) {

@@ -13,6 +13,7 @@ public final class WordEdgesTest {
         aNewObjectHasNoWords();
         roomCountsTheEmptyPrefix();
         roomBelowOneIsOne();
+        roomAboveTwoThousandHoldsAWholeRun();
         roomAboveTwoThousandIsTwoThousand();
 
         putRefusesMoreThanForty();
@@ -122,7 +123,21 @@ public final class WordEdgesTest {
         }
     }
 
-    /** No run of 512 calls has so many prefixes: the sentence can only be seen in a longer one. */
+    /** 511 calls, with the most prefixes that they can make. */
+    private static void roomAboveTwoThousandHoldsAWholeRun() {
+        DUE.says("1", "above 2000 it is 2000");
+        int[] rooms = {498, 2000, 2001, Integer.MAX_VALUE};
+        for (int room : rooms) {
+            ScanDesk desk = new ScanDesk(room);
+            for (int w = 0; w < 12; w++) {
+                DUE.is("word " + w + " of 40", Due.word(desk, (char) (200 + w) + "x".repeat(39)), w);
+            }
+            DUE.is("a word of 17", Due.word(desk, "y".repeat(17)), 12);
+            DUE.is("build() in a room of " + room, desk.build(), 498);
+        }
+    }
+
+    /** The one test of more than 512 calls, as no shorter run has so many prefixes. */
     private static void roomAboveTwoThousandIsTwoThousand() {
         DUE.says("1", "above 2000 it is 2000");
         int[] rooms = {1999, 2000, 2001, 4000, Integer.MAX_VALUE};
