@@ -7,6 +7,7 @@ public final class WordEdgesTest {
         aWordHasAnyByteButTen();
         wordsAreNumberedFromZero();
         twoWordsMayBeTheSame();
+        twoWordsOfFortyBytesMayBeTheSame();
         wholeWordsArePrefixes();
         theEmptyPrefixIsOne();
 
@@ -77,6 +78,17 @@ public final class WordEdgesTest {
         DUE.is("build()", desk.build(), 3);
         DUE.is("text ab", Due.piece(desk, "ab"), 2);
         DUE.is("found", Due.found(desk), "0@1 1@1");
+    }
+
+    private static void twoWordsOfFortyBytesMayBeTheSame() {
+        DUE.says("WORDS", "two may be the same");
+        String forty = "ab".repeat(20);
+        ScanDesk desk = new ScanDesk(41);
+        DUE.is("forty bytes", Due.word(desk, forty), 0);
+        DUE.is("forty bytes again", Due.word(desk, forty), 1);
+        DUE.is("build()", desk.build(), 41);
+        DUE.is("text of them", Due.feed(desk, forty), 2);
+        DUE.is("found", Due.found(desk), "0@39 1@39");
     }
 
     private static void wholeWordsArePrefixes() {
